@@ -56,6 +56,7 @@ public final class LazyForge {
     private static final String SIGNS = "(){}=;,\\._+-*/%<|";
     private static final int NAME_SIGNS_MOST = 8;
     private static final int DIGITS_MOST = 10;
+    private static final long NUMBER_MOST = 2147483647L;
 
     // A name is held as its signs, one byte each.
     private static final long NAME_DATA = 0x64617461L;
@@ -472,7 +473,7 @@ public final class LazyForge {
                     sum = sum * 10 + (text.signAt(at) - '0');
                 }
             }
-            boolean fits = length <= DIGITS_MOST && sum <= Integer.MAX_VALUE;
+            boolean fits = length <= DIGITS_MOST && sum <= NUMBER_MOST;
             kind = fits ? DIGITS : BAD;
             number = fits ? (int) sum : 0;
         }
@@ -821,7 +822,7 @@ public final class LazyForge {
             }
         }
 
-        /** Counts ( let lambda case as open; how many stand open is all that keeps the reader's depth low. */
+        /** Of let, lambda and case; how many stand open is all that keeps the reader's depth low. */
         private boolean opens() {
             if (open >= OPEN_MOST) {
                 refuse(WRONG_WORD);
@@ -1132,13 +1133,19 @@ public final class LazyForge {
             return words.kind != STOPPED;
         }
 
+        /** Comes behind atomStands, which has seen to it that one more ( may be open. */
         private int readAtom() {
             int kind = words.kind;
             if (kind == STOPPED) {
                 return 0;
             }
             if (kind == '(') {
-                return readInner();
+                open++;
+                words.advance();
+                int inner = readExpression();
+                expect(')');
+                open--;
+                return inner;
             }
             countPart();
             if (words.kind == STOPPED) {
@@ -1156,17 +1163,6 @@ public final class LazyForge {
                 node = tree.addLeaf(N_FAIL, 0);
             }
             words.advance();
-            return node;
-        }
-
-        private int readInner() {
-            if (!opens()) {
-                return 0;
-            }
-            words.advance();
-            int node = readExpression();
-            expect(')');
-            open--;
             return node;
         }
     }

@@ -1,0 +1,161 @@
+/** Promises 9 to 11: function, needs, bit, with Terms 3: what is needed. */
+public final class DemandTest {
+    public static void main(String[] args) {
+        tells();
+        wrongCalls();
+        eachRule();
+        applications();
+        recursion();
+        lets();
+        letsThatNeed();
+        manyParameters();
+        Check.close("DemandTest");
+    }
+
+    private static void tells() {
+        LazyForge x = Check.forge("data P 2; f a = let k = a + 1 in \\ b . case k of {P c d -> b; _ -> a}; main = f 1 2;");
+        int[][] want = {
+            {1, 0, 2, 8, 0, 3},
+            {0, 0, 0, 4, 0, 2},
+            {3, 2, 5, 4, 0, 2},
+        };
+        for (int f = 0; f < 3; f++) {
+            for (int what = 0; what < 6; what++) {
+                Check.due("function(" + f + ", " + what + ")", x.function(f, what), want[f][what]);
+            }
+        }
+    }
+
+    private static void wrongCalls() {
+        LazyForge x = Check.forge("f a b = a; main = f 1 2;");
+        Check.refuses("function 2", IndexOutOfBoundsException.class, () -> x.function(2, 0));
+        Check.refuses("function -1", IndexOutOfBoundsException.class, () -> x.function(-1, 9));
+        Check.refuses("what 6", IllegalArgumentException.class, () -> x.function(0, 6));
+        Check.refuses("what -1", IllegalArgumentException.class, () -> x.function(1, -1));
+        Check.refuses("needs of function 2", IndexOutOfBoundsException.class, () -> x.needs(2, 0) ? 1 : 0);
+        Check.refuses("needs of parameter 2", IndexOutOfBoundsException.class, () -> x.needs(0, 2) ? 1 : 0);
+        Check.refuses("needs of parameter -1", IndexOutOfBoundsException.class, () -> x.needs(0, -1) ? 1 : 0);
+        Check.refuses("main has no parameters", IndexOutOfBoundsException.class, () -> x.needs(1, 0) ? 1 : 0);
+        Check.refuses("bits 4 of two", IllegalArgumentException.class, () -> x.bit(0, 4));
+        Check.refuses("bits -1", IllegalArgumentException.class, () -> x.bit(0, -1));
+        Check.refuses("bits 1 of none", IllegalArgumentException.class, () -> x.bit(1, 1));
+        Check.refuses("bits of function 2", IndexOutOfBoundsException.class, () -> x.bit(2, -1));
+        Check.due("bits 3 of two", x.bit(0, 3), 1);
+        Check.due("bits 0 of none", x.bit(1, 0), 1);
+    }
+
+    /** What F of function 0 gives for all its bits, the lowest first. */
+    private static void bits(String text, String want) {
+        LazyForge x = Check.forge(text);
+        StringBuilder got = new StringBuilder();
+        int parameters = x.function(0, 0);
+        for (int bits = 0; bits < 1 << parameters; bits++) {
+            got.append(x.bit(0, bits));
+        }
+        Check.due("F of " + text, got.toString(), want);
+        int ones = (1 << parameters) - 1;
+        for (int i = 0; i < parameters; i++) {
+            Check.due("needs " + i + " of " + text, x.needs(0, i) ? 1 : 0, 1 - x.bit(0, ones & ~(1 << i)));
+        }
+    }
+
+    private static void eachRule() {
+        bits("f a = a; main = 1;", "01");
+        bits("f a = 1; main = 1;", "11");
+        bits("f a = f; main = 1;", "11");
+        bits("f a = True; main = 1;", "11");
+        bits("data C 1; f a = C a; main = 1;", "11");
+        bits("f a = fail; main = 1;", "00");
+        bits("f a b = a + b; main = 1;", "0001");
+        bits("f a b = a == 1; main = 1;", "0101");
+        bits("f a b c = case a of {1 -> b; _ -> c}; main = 1;", "00010101");
+        bits("f a b = case a of {1 -> b}; main = 1;", "0001");
+        bits("f a b = case a of {1 -> fail; _ -> b}; main = 1;", "0001");
+        bits("data C 2; f a b = case a of {C x y -> x + b}; main = 1;", "0001");
+        bits("f a = g; g = 1; main = 1;", "11");
+        bits("f a = g; g = fail; main = 1;", "00");
+        bits("f a = g; g = g; main = 1;", "00");
+    }
+
+    private static void applications() {
+        bits("f a b = g a b; g x y = y; main = 1;", "0011");
+        bits("f a b = g b a; g x y = y; main = 1;", "0101");
+        bits("f a b = g a; g x y = y; main = 1;", "1111");
+        bits("f a b = g a b; g x = x; main = 1;", "0101");
+        bits("f a b = a b; main = 1;", "0101");
+        bits("f a b = g a b; g = \\ x . x; main = 1;", "1111");
+        bits("f a b = g a b; g = fail; main = 1;", "0000");
+        bits("f a b = (g a) b; g x y = y; main = 1;", "1111");
+        bits("f a = 3 a; main = 1;", "11");
+        bits("f a = True a; main = 1;", "11");
+        bits("f a = fail a; main = 1;", "00");
+        bits("f a b = (\\ x . x) a; main = 1;", "0101");
+        bits("f a b = (\\ x . x + a) b; main = 1;", "1111");
+        bits("f a b = g (a + b) fail; g x y = x; main = 1;", "0001");
+    }
+
+    private static void recursion() {
+        bits("f n a = case n < 1 of {True -> a; False -> f (n - 1) (a * n)}; main = 1;", "0001");
+        bits("f n a = case n < 1 of {True -> a; False -> f (n - 1) 7}; main = 1;", "0101");
+        bits("f n a b = case n < 1 of {True -> a; False -> f (n - 1) b a}; main = 1;", "00010101");
+        bits("f n a b = case n of {0 -> a; 1 -> b; _ -> f n b a}; main = 1;", "00010101");
+        bits("f a = f a; main = 1;", "00");
+        bits("f a b = case a of {0 -> b; _ -> g a b}; g a b = f b a; main = 1;", "0001");
+        bits("data N 0 | C 2; f g l = case l of {N -> N; C a b -> C (g a) (f g b)}; main = 1;", "0011");
+    }
+
+    private static void lets() {
+        bits("f a b = let x = a in x + b; main = 1;", "0001");
+        bits("f a b = let x = a in b; main = 1;", "0011");
+        bits("f a b = let x = y, y = a in x; main = 1;", "0101");
+        bits("f a b = let x = x in b; main = 1;", "0011");
+        bits("f a b = let x = x in x; main = 1;", "0000");
+        bits("f a b = let x = y, y = z, z = u, u = v, v = a in x + b; main = 1;", "0001");
+        bits("f a b = let x = let y = a in y + b in x; main = 1;", "0001");
+        bits("f a b = let x = case a of {0 -> x; _ -> b} in x; main = 1;", "0001");
+        bits("f a b = let g x = a + x in g b; main = 1;", "1111");
+    }
+
+    private static void need(String what, String text, int want) {
+        Check.due(what, Check.forge(text).function(0, 4), want);
+    }
+
+    private static void letsThatNeed() {
+        need("used in its E", "main = let x = 1 + 2 in x + 1;", 1);
+        need("not used", "main = let x = 1 + 2 in 1;", 0);
+        need("in one alternative", "f a = let x = a in case a of {0 -> x; _ -> 1}; main = 1;", 0);
+        need("in all alternatives", "f a = let x = a in case a of {0 -> x; _ -> x + 1}; main = 1;", 1);
+        need("two BINDINGS", "main = let x = 1, y = 2 in x + y;", 0);
+        need("its E uses its name", "main = let x = x + 1 in x;", 0);
+        need("its E has that name within", "main = let x = (let x = 1 in x) in x;", 2);
+        need("fail needs all", "main = let x = 1 in fail;", 1);
+        need("through a let within", "main = let x = 1 in let y = x in y + 1;", 2);
+        need("through a let of two within", "main = let x = 1 in let y = z, z = x in y;", 1);
+        need("through a function", "main = let x = 1 in g x; g y = y + 1;", 1);
+        need("a name around counts 1", "f a = let x = fail in let y = 1 in x; main = 1;", 1);
+        need("of lets in one another each by itself", "f a = let x = a in (let y = a in x) + (let z = a in 3); main = 1;", 1);
+        need("a lambda's are its own", "main = \\ a . let x = a in x;", 0);
+        Check.due("they are the lifted function's",
+            Check.forge("main = \\ a . let x = a in x;").function(1, 4), 1);
+    }
+
+    private static void manyParameters() {
+        LazyForge x = Check.forge("f a b c d e = \\ g h i . case a + h of {0 -> b + c + d; _ -> e + g + i}; main = 1;");
+        // Lifted: a is 0, b 1, c 2, d 3, e 4, and g 5, h 6, i 7.
+        Check.due("eight parameters", x.function(2, 0), 8);
+        Check.due("five free ones", x.function(2, 1), 5);
+        Check.refuses("bits 256", IllegalArgumentException.class, () -> x.bit(2, 256));
+        int asked = 1 << 0 | 1 << 6;
+        int one = 1 << 1 | 1 << 2 | 1 << 3;
+        int other = 1 << 4 | 1 << 5 | 1 << 7;
+        int wrong = 0;
+        for (int bits = 0; bits < 256; bits++) {
+            boolean want = (bits & asked) == asked && ((bits & one) == one || (bits & other) == other);
+            wrong += x.bit(2, bits) == (want ? 1 : 0) ? 0 : 1;
+        }
+        Check.due("wrong bits", wrong, 0);
+        for (int i = 0; i < 8; i++) {
+            Check.due("needs " + i, x.needs(2, i) ? 1 : 0, i == 0 || i == 6 ? 1 : 0);
+        }
+    }
+}
