@@ -92,6 +92,17 @@ public final class DemandTest {
         bits("f a b = (\\ x . x) a; main = 1;", "0101");
         bits("f a b = (\\ x . x + a) b; main = 1;", "1111");
         bits("f a b = g (a + b) fail; g x y = x; main = 1;", "0001");
+        bits("f a b = k (k 1 (k b 1)) (k (k 2 3) (k 4 a)); k x y = x + y; main = 1;", "0001");
+        manyApplications();
+    }
+
+    private static void manyApplications() {
+        StringBuilder text = new StringBuilder("f a b = g1 a b; k x y z = y; main = 1;");
+        for (int g = 1; g <= 20; g++) {
+            text.append("g").append(g).append(" a b=k 1 (k 2 (k 3 (");
+            text.append(g == 20 ? "k b a b" : "g" + (g + 1) + " b a").append(") 4) 5) 6;");
+        }
+        bits(text.toString(), "0011");
     }
 
     private static void recursion() {

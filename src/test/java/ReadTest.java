@@ -267,6 +267,15 @@ public final class ReadTest {
         Check.program(x, "main = 1;");
         Check.due("no fault any more", x.fault(0), 0);
         Check.due("nor a place", x.fault(1), LazyForge.NONE);
+        String[] late = {"main = x;", "h a b c d e = \\ f g i . \\ j . a+b+c+d+e+f+g+i; main = 1;", "f = 1;",
+            "main = " + Check.repeat("1+", 40) + "1;"};
+        for (int i = 0; i < late.length; i++) {
+            Check.due("a late fault", Check.program(x, late[i]), LazyForge.NONE);
+            Check.due("its kind", x.fault(0), 5 + i);
+            Check.refuses("no program then", IllegalStateException.class, () -> x.write());
+            Check.due("none behind it", Check.program(x, "main = \\ x . x;"), 2);
+            Check.due("no kind", x.fault(0), 0);
+        }
     }
 
     private static void partsReadEver() {

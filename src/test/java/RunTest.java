@@ -141,6 +141,12 @@ public final class RunTest {
         all("data O 1; main = O (\\ x . x);", false, "1 0 0 3 1 0 1 1 0 3");
         all("data O 1; f a = O (\\ x . a); main = f 1;", false, "1 0 1 6 1 1 1 1 0 3");
         all("f x = x; main = 3 (f 1) (f 2) (f 3);", false, "2 4 0 4 4 0 0 0 0 0");
+        all("data O 1 | P 2; f a = O (let b = a, c = 1 in b + c); main = f 1;", false, "1 0 1 7 3 0 1 3 0 4");
+        all("data O 1 | P 2; f a = O (case P a 1 of {P b c -> b + c}); main = f 1;", false, "1 0 1 8 2 0 2 2 0 4");
+        all("data O 1 | P 2; f a b = O (case a of {P b c -> b + c; _ -> a}); main = f 1 2;", false, "1 0 1 5 2 0 1 2 0 4");
+        row("data O 1; f a b c d e = O (e * 1000 + b * 100 + c * 10 + a); main = f 1 2 3 4 5;", "2 2 1 5231");
+        row("data O 1; f a b c = let x = a, y = b + x, z = c - y in O (z * x + y); main = f 2 3 9;", "2 2 1 13");
+        row("data T 4; f a b = T b (T a b 1 2) (b - a) a; main = f 7 9;", "2 2 1 9 2 2 1 7 1 9 1 1 1 2 1 2 1 7");
     }
 
     private static void bindings() {
@@ -177,6 +183,11 @@ public final class RunTest {
         row("f a b c = a * 100 + b * 10 + c; g = f 4; h = g 5; main = h 6;", "1 456");
         row("f a b c = a * 100 + b * 10 + c; g x = x 1; main = g f 2 3;", "1 123");
         row("i x = x; main = i i i i 5;", "1 5");
+        row("f a b c d e = a * 10000 + b * 1000 + c * 100 + d * 10 + e; g x = x 2 3; main = g (f 1) 4 5 + 1;", "1 12346");
+        row("f a b c d e = a * 10000 + b * 1000 + c * 100 + d * 10 + e; main = 1 + (((f 1) 2 3) 4) 5 * 2;", "1 24691");
+        row("f a b c d e = a * 10000 + b * 1000 + c * 100 + d * 10 + e; g x = x 1 2; main = 7 - g f 3 4 5;", "1 -12338");
+        row("f a b c = a * 100 + b * 10 + c; g x y = y; main = g ((f 1) 2) 3 + (case (f 1) 2 of {_ -> 4});", "1 7");
+        row("f a b = \\ c d . a * 1000 + b * 100 + c * 10 + d; main = f 1 2 3 4 - (f 4 3) 2 1;", "1 -3087");
         all("f a b c = a; main = (f 1) 2;", false, "1 0 0 8 1 2 0 1 0 1");
         all("f a b c = a; g = f; main = g 7 8;", false, "1 0 0 6 2 1 0 2 0 1");
         all("f a = \\ b . a; main = f 1 2;", false, "1 0 2 4 1 1 0 1 0 2");

@@ -104,6 +104,29 @@ public final class TextTest {
         Check.text(x, "main");
         Check.due("take", x.take(), LazyForge.NONE);
         Check.due("nothing happened", x.about(3), 4);
+        takeJustEnough();
+    }
+
+    /** Each digit more is a sign more of OUT. */
+    private static void takeJustEnough() {
+        LazyForge x = new LazyForge();
+        String text = "main=1;" + sums(17, 15) + "x=1;";
+        Check.program(x, text);
+        int missing = 3000 - x.write();
+        Check.due("some signs are missing, but not one for each number", missing > 0 && missing < 17 * 14 ? 1 : 0, 1);
+        StringBuilder just = new StringBuilder(text);
+        for (int i = 0; i < missing; i++) {
+            int at = just.indexOf("123456+");
+            just.replace(at, at + 7, "1234567+");
+        }
+        Check.program(x, just.toString());
+        Check.due("3000 signs", x.write(), 3000);
+        Check.due("are taken", x.take(), 3000);
+        int at = just.indexOf("123456+");
+        just.replace(at, at + 7, "1234567+");
+        Check.program(x, just.toString());
+        Check.due("3001 signs", x.write(), 3001);
+        Check.due("are not", x.take(), LazyForge.NONE);
     }
 
     private static String sums(int functions, int numbers) {
