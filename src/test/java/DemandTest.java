@@ -9,6 +9,7 @@ public final class DemandTest {
         lets();
         letsThatNeed();
         manyParameters();
+        oneBehindAnother();
         Check.close("DemandTest");
     }
 
@@ -168,5 +169,21 @@ public final class DemandTest {
         for (int i = 0; i < 8; i++) {
             Check.due("needs " + i, x.needs(2, i) ? 1 : 0, i == 0 || i == 6 ? 1 : 0);
         }
+    }
+
+    /** Nothing of an earlier program is left. */
+    private static void oneBehindAnother() {
+        LazyForge x = Check.forge("main = 1; f a b = 1; g a = let x = a in x;");
+        Check.due("bits", x.bit(1, 0), 1);
+        Check.due("lets", x.function(2, 4), 1);
+        Check.program(x, "main = 1; f a b = f b a;");
+        Check.due("the least bits", x.bit(1, 3), 0);
+        Check.due("needed", x.needs(1, 1) ? 1 : 0, 1);
+        Check.refuses("no function 2 any more", IndexOutOfBoundsException.class, () -> x.needs(2, 0) ? 1 : 0);
+        Check.refuses("nor its bits", IndexOutOfBoundsException.class, () -> x.bit(2, 0));
+        Check.refuses("nor its lets", IndexOutOfBoundsException.class, () -> x.function(2, 4));
+        Check.program(x, "main = 1; f a b = 1; g a = let x = a in 1;");
+        Check.due("no lets", x.function(2, 4), 0);
+        Check.due("bits again", x.bit(1, 0), 1);
     }
 }

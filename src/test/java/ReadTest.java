@@ -44,6 +44,9 @@ public final class ReadTest {
         Check.fault("no blanks", "data N0 0|C2 2;main=case C2 1 2of{C2 a b->a+b;N0->3;_->4};", 0, -1);
         Check.fault("eight signs", "abcdefg8 = 1; main = abcdefg8;", 0, -1);
         Check.fault("nine signs", "abcdefg89 = 1; main = 1;", 1, 0);
+        Check.fault("nine signs of a parameter", "f abcdefg89 = 1; main = 1;", 1, 2);
+        Check.fault("eleven digits of an argument", "main = 1 00000000001;", 1, 9);
+        Check.fault("first and last signs", "data Az 0 | Za9 0 | Z0 0; az09 za = Z0; main = az09 9 0;", 0, -1);
         Check.fault("a CONSTRUCTOR of eight", "data Abcdefg8 0; main = Abcdefg8;", 0, -1);
         Check.fault("a CONSTRUCTOR of nine", "data Abcdefg89 0; main = 1;", 1, 5);
         Check.fault("the greatest number", "main = 2147483647;", 0, -1);

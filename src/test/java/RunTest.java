@@ -146,6 +146,9 @@ public final class RunTest {
         all("data O 1 | P 2; f a b = O (case a of {P b c -> b + c; _ -> a}); main = f 1 2;", false, "1 0 1 5 2 0 1 2 0 4");
         row("data O 1; f a b c d e = O (e * 1000 + b * 100 + c * 10 + a); main = f 1 2 3 4 5;", "2 2 1 5231");
         row("data O 1; f a b c = let x = a, y = b + x, z = c - y in O (z * x + y); main = f 2 3 9;", "2 2 1 13");
+        row("main = f 1 2 3; g x = x; f a b c = let x = b + c, y = x + a in g (let z = y in z * x) - c;", "1 27");
+        row("main = case f 1 2 of {_ -> (f 3 4) 5}; f a b = \\ c . let d = g a, e = g b in e * 100 + d * 10 + g c; g x = x;",
+            "1 435");
         row("data T 4; f a b = T b (T a b 1 2) (b - a) a; main = f 7 9;", "2 2 1 9 2 2 1 7 1 9 1 1 1 2 1 2 1 7");
     }
 
@@ -206,6 +209,10 @@ public final class RunTest {
     private static void eager() {
         all("f a b = a; main = f (1 + 1) (2 + 2);", true, "1 0 1 2 2 0 0 1 1 2");
         all("f a b = a; main = f (1 + 1) (2 + 2);", false, "1 0 1 3 3 0 0 2 0 2");
+        row("main = let x = 1 + 2 in x * x;", "1 9");
+        row("f a = let x = a + 1 in let y = x * 2 in y - x; main = f 10;", "1 11");
+        row("f a b c = a * 100 + b * 10 + c; main = f (1 + 1) (f 0 0 3) (2 + 2) + f 1 (0 - 1) 1;", "1 325");
+        row("f a b c = case a of {0 -> b; _ -> c}; main = f (1 - 1) (2 + 3) fail;", "1 5");
         all("main = let x = 1 + 1 in x + x;", true, "1 0 0 1 1 0 0 1 1 2");
         all("main = let x = 1 + 1 in x + x;", false, "1 0 0 2 2 0 0 2 0 2");
         all("main = let x = 1 + 1 in 3;", true, "1 0 0 2 2 0 0 1 0 2");
@@ -357,6 +364,17 @@ public final class RunTest {
         }
         Check.due("about 4000 cells each", runs, 38);
         Check.refuses("150000 cells", UnsupportedOperationException.class, () -> y.run(false, 0));
+        LazyForge z = Check.forge("data T 4; k n = case n of {0 -> 7; _ -> case T n n n n of {_ -> k (n - 1)}}; main = k 799;"
+            + "p1 = 1; p2 = 2; p3 = 3; p4 = 4;");
+        for (int i = 0; i < 37; i++) {
+            z.run(true, 800);
+        }
+        Check.due("cells so far", z.about(6), 148000);
+        z.run(true, 398);
+        Check.due("five cells are left", z.about(6), 149995);
+        Check.due("a run is left", z.run(true, 0), 3);
+        Check.due("no cell is left", z.about(6), 150000);
+        Check.refuses("exactly 150000 cells", UnsupportedOperationException.class, () -> z.run(false, 0));
         Check.program(y, "");
         Check.refuses("no program comes first", IllegalStateException.class, () -> y.run(false, 0));
     }

@@ -103,8 +103,46 @@ public final class WriteTest {
         }
         Check.due("some are small", small > 0 ? 1 : 0, 1);
         Check.due("some are great", great > 0 ? 1 : 0, 1);
+        justEnough(x);
         Check.program(x, "main = 2;");
         Check.due("the next one is whole", Check.written(x), "main = 2;\n");
+    }
+
+    /** Functions of ten numbers each are put behind, and their numbers get digits until 12000 signs are reached. */
+    private static void justEnough(LazyForge x) {
+        String most = deep(8);
+        String ten = Check.repeat("7+", 9) + "7;";
+        StringBuilder text = new StringBuilder(most);
+        int missing = 12000;
+        for (int pads = 1; pads <= 15 && missing > 81 * (pads - 1); pads++) {
+            text.append("p").append(pads).append("=").append(ten);
+            Check.program(x, text.toString());
+            missing = 12000 - x.write();
+        }
+        Check.due("a digit for each sign", missing > 0 && missing < 12000 ? 1 : 0, 1);
+        Check.program(x, withDigits(text, most.length(), missing));
+        Check.due("12000 signs", x.write(), 12000);
+        Check.due("OUT has them", x.about(4), 12000);
+        Check.program(x, withDigits(text, most.length(), missing + 1));
+        Check.due("12001 signs", x.write(), LazyForge.NONE);
+        Check.due("OUT stays", x.about(4), 12000);
+    }
+
+    /** So many numbers 7 behind that place are 77, and when all are, 777, and so on. */
+    private static String withDigits(StringBuilder text, int from, int digits) {
+        StringBuilder longer = new StringBuilder(text);
+        String number = "7";
+        int at = from;
+        for (int i = 0; i < digits; i++) {
+            int plus = longer.indexOf(number + "+", at);
+            if (plus < 0) {
+                number += "7";
+                plus = longer.indexOf(number + "+", from);
+            }
+            longer.insert(plus, "7");
+            at = longer.indexOf("+", plus);
+        }
+        return longer.toString();
     }
 
     private static void letters() {
