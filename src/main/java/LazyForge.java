@@ -676,7 +676,8 @@ public final class LazyForge {
 
     /**
      * Where names are: of functions, lambdas and BINDINGS with parameters (these own themselves), lets and PATTERNS,
-     * in the order in which they begin; and where NAMES are used. A variable is its scope times five and its place there.
+     * in the order in which they begin; and where NAMES are used. A variable is its scope times five and its place
+     * there.
      */
     private static final class Scopes {
         final long[] name = new long[SCOPES_MOST * NAMES_MOST];
@@ -760,7 +761,7 @@ public final class LazyForge {
         }
     }
 
-    /** Reads the text up to its first fault of kinds 1 to 4: behind that it goes on without a word and changes nothing. */
+    /** Reads the text up to its first fault of kinds 1 to 4: behind that there is no word, and all reading ends. */
     private static final class Reader {
         final Words words;
         final Tree tree;
@@ -1396,8 +1397,8 @@ public final class LazyForge {
     }
 
     /**
-     * What functions and lets need. All the bits that a function may get are looked at together: 64 rows of them are the
-     * lanes of one word, and a function of eight parameters has four words.
+     * What functions and lets need. All the bits that a function may get are looked at together: 64 rows of them are
+     * the lanes of one word, and a function of eight parameters has four words.
      */
     private static final class Demand {
         private static final int WORDS = 4;
@@ -1856,8 +1857,8 @@ public final class LazyForge {
     }
 
     /**
-     * Works programs out. What is still to be done with a value is a FRAME on the stack (its kind and two numbers), with
-     * kept arguments and left sides below their frames. Each call, and each SUSPENSION being worked out, has its
+     * Works programs out. What is still to be done with a value is a FRAME on the stack (its kind and two numbers),
+     * with kept arguments and left sides below their frames. Each call, and each SUSPENSION being worked out, has its
      * variables in a row of its own on top of those of what waits for it.
      */
     private static final class Machine {

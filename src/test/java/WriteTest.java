@@ -17,6 +17,8 @@ public final class WriteTest {
     private static void eachKind() {
         written("a number", "main=007;", "main = 7;\n");
         written("the greatest number", "main=2147483647;", "main = 2147483647;\n");
+        written("numbers of some digits", "main=0+9+10+99+100+1000000000;",
+            "main = (((((0 + 9) + 10) + 99) + 100) + 1000000000);\n");
         written("fail", "main=fail;", "main = fail;\n");
         written("a CONSTRUCTOR", "main=(True);", "main = True;\n");
         written("data", "data A 0|B 4;data Cde 1;main=B A A (Cde 1) True;",
