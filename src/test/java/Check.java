@@ -41,8 +41,19 @@ final class Check {
         }
     }
 
+    /** The tests ask for nothing behind an object's 512th call. */
+    static void tooManyCalls() {
+        wrong++;
+        for (StackTraceElement open : new Throwable().getStackTrace()) {
+            if (open.getFileName() != null && open.getFileName().endsWith("Test.java")) {
+                System.out.println("the 513th call of an object: " + open);
+                return;
+            }
+        }
+    }
+
     /** THE TEXT becomes this one. */
-    static void text(LazyForge x, String text) {
+    static void text(Forge x, String text) {
         x.end(0);
         for (int i = 0; i < text.length(); i += 4) {
             int signs = 0;
@@ -53,13 +64,20 @@ final class Check {
         }
     }
 
-    static int program(LazyForge x, String text) {
+    /** A new object with a text. */
+    static Forge texted(String text) {
+        Forge x = new Forge();
+        text(x, text);
+        return x;
+    }
+
+    static int program(Forge x, String text) {
         text(x, text);
         return x.program();
     }
 
-    static LazyForge forge(String text) {
-        LazyForge x = new LazyForge();
+    static Forge forge(String text) {
+        Forge x = new Forge();
         int functions = program(x, text);
         if (functions == LazyForge.NONE) {
             due("the fault's kind (at " + x.fault(1) + ") of " + text, x.fault(0), 0);
@@ -69,29 +87,41 @@ final class Check {
 
     /** The fault of a text, as kind and place. */
     static void fault(String what, String text, int kind, int place) {
-        LazyForge x = new LazyForge();
+        Forge x = new Forge();
         int answer = program(x, text);
-        due(what + ": program()", answer == LazyForge.NONE ? 1 : 0, kind == 0 ? 0 : 1);
+        due(what + ": program() is NONE", answer == LazyForge.NONE ? 1 : 0, kind == 0 ? 0 : 1);
         due(what + ": kind", x.fault(0), kind);
         due(what + ": place", x.fault(1), place);
     }
 
-    static String out(LazyForge x) {
+    /** The fault of a text, whose place is at the sign @, which is left out; there is no fault if there is none. */
+    static void marked(String what, String text, int kind) {
+        int at = text.indexOf('@');
+        fault(what, at < 0 ? text : text.substring(0, at) + text.substring(at + 1), at < 0 ? 0 : kind, at);
+    }
+
+    static void fine(String what, String text) {
+        marked(what, text, 0);
+    }
+
+    static String out(Forge x) {
         StringBuilder signs = new StringBuilder();
-        for (int k = 0; x.letter(k) != LazyForge.NONE; k++) {
-            signs.append((char) x.letter(k));
+        int sign = x.letter(0);
+        while (sign != LazyForge.NONE) {
+            signs.append((char) sign);
+            sign = x.letter(signs.length());
         }
         return signs.toString();
     }
 
-    static String written(LazyForge x) {
+    static String written(Forge x) {
         int signs = x.write();
         String text = out(x);
         due("signs written", signs, text.length());
         return text;
     }
 
-    static String row(LazyForge x) {
+    static String row(Forge x) {
         StringBuilder numbers = new StringBuilder();
         for (int i = 0; i < x.result(9); i++) {
             numbers.append(i == 0 ? "" : " ").append(x.number(i));
@@ -100,7 +130,7 @@ final class Check {
     }
 
     /** Results 0 to 9 of the latest run. */
-    static String results(LazyForge x) {
+    static String results(Forge x) {
         StringBuilder numbers = new StringBuilder();
         for (int i = 0; i < 10; i++) {
             numbers.append(i == 0 ? "" : " ").append(x.result(i));
@@ -110,6 +140,18 @@ final class Check {
 
     static String repeat(String part, int times) {
         return part.repeat(Math.max(0, times));
+    }
+
+    /** Functions with so many parts, 41 in one at most; main is still to come. */
+    static String parts(int many) {
+        StringBuilder text = new StringBuilder();
+        int left = many;
+        for (int f = 0; left > 0; f++) {
+            int here = Math.min(left, 41) - (Math.min(left, 41) + 1) % 2;
+            text.append("g").append(f).append("=1").append("+1".repeat(here / 2)).append(";");
+            left -= here;
+        }
+        return text.toString();
     }
 
     static void close(String name) {

@@ -2,7 +2,10 @@
 public final class DemandTest {
     public static void main(String[] args) {
         tells();
-        wrongCalls();
+        tellsEdges();
+        refusesFunctions();
+        refusesWithoutProgram();
+        bitsThatThereAre();
         eachRule();
         applications();
         recursion();
@@ -14,7 +17,7 @@ public final class DemandTest {
     }
 
     private static void tells() {
-        LazyForge x = Check.forge("data P 2; f a = let k = a + 1 in \\ b . case k of {P c d -> b; _ -> a}; main = f 1 2;");
+        Forge x = Check.forge("data P 2; f a = let k = a + 1 in \\ b . case k of {P c d -> b; _ -> a}; main = f 1 2;");
         int[][] want = {
             {1, 0, 2, 8, 0, 3},
             {0, 0, 0, 4, 0, 2},
@@ -27,27 +30,101 @@ public final class DemandTest {
         }
     }
 
-    private static void wrongCalls() {
-        LazyForge x = Check.forge("f a b = a; main = f 1 2;");
-        Check.refuses("function 2", IndexOutOfBoundsException.class, () -> x.function(2, 0));
-        Check.refuses("function -1", IndexOutOfBoundsException.class, () -> x.function(-1, 9));
-        Check.refuses("what 6", IllegalArgumentException.class, () -> x.function(0, 6));
-        Check.refuses("what -1", IllegalArgumentException.class, () -> x.function(1, -1));
-        Check.refuses("needs of function 2", IndexOutOfBoundsException.class, () -> x.needs(2, 0) ? 1 : 0);
-        Check.refuses("needs of parameter 2", IndexOutOfBoundsException.class, () -> x.needs(0, 2) ? 1 : 0);
-        Check.refuses("needs of parameter -1", IndexOutOfBoundsException.class, () -> x.needs(0, -1) ? 1 : 0);
-        Check.refuses("main has no parameters", IndexOutOfBoundsException.class, () -> x.needs(1, 0) ? 1 : 0);
-        Check.refuses("bits 4 of two", IllegalArgumentException.class, () -> x.bit(0, 4));
-        Check.refuses("bits -1", IllegalArgumentException.class, () -> x.bit(0, -1));
-        Check.refuses("bits 1 of none", IllegalArgumentException.class, () -> x.bit(1, 1));
-        Check.refuses("bits of function 2", IndexOutOfBoundsException.class, () -> x.bit(2, -1));
-        Check.due("bits 3 of two", x.bit(0, 3), 1);
-        Check.due("bits 0 of none", x.bit(1, 0), 1);
+    private static void tell(String what, String text, int f, String want) {
+        Forge x = Check.forge(text);
+        StringBuilder got = new StringBuilder();
+        for (int i = 0; i < 6; i++) {
+            got.append(i == 0 ? "" : " ").append(x.function(f, i));
+        }
+        Check.due(what, got.toString(), want);
+    }
+
+    /** Parameters, free ones of these, variables, parts, lets that need their name, height: least and most. */
+    private static void tellsEdges() {
+        tell("the least", "main = 1;", 0, "0 0 0 1 0 1");
+        tell("five parameters", "f a b c d e = a; main = 1;", 0, "5 0 5 1 0 1");
+        tell("a lambda with nothing free", "main = \\ x . x;", 1, "1 0 1 1 0 1");
+        tell("where it stood", "main = \\ x . x;", 0, "0 0 0 1 0 1");
+        tell("seven free", "h a b c d e = \\ f g . \\ i . a b c d e f + g; main = 1;", 3, "8 7 8 9 0 3");
+        tell("where it stood with seven free", "h a b c d e = \\ f g . \\ i . a b c d e f + g; main = 1;", 2, "7 5 7 9 0 2");
+        tell("a BINDING's own name is free", "main = let f x = f x in f;", 1, "2 1 2 3 0 2");
+        tell("where that stood", "main = let f x = f x in f;", 0, "0 0 1 5 0 3");
+        tell("a BINDING with nothing free", "main = let f x = x in f 1;", 0, "0 0 1 5 1 3");
+        tell("40 high", "main = " + "1+".repeat(39) + "1;", 0, "0 0 0 79 0 40");
+        tell("40 variables", "f a b c d e = " + "(let a=1,b=1,c=1,d=1,e=1 in 1)+".repeat(7) + "1; main = 1;", 0,
+            "5 0 40 57 0 9");
+        tell("a PATTERN's NAMES are variables", "data T 4; main = case 1 of {T a b c d -> a; True -> 2; _ -> 3};", 0, "0 0 4 5 0 2");
+        tell("lambdas' are not", "main = let x = 1 in \\ y . let z = y in z;", 0, "0 0 1 3 0 2");
+        tell("30 lets, of which the last needs its name", "main = " + "let x=1 in ".repeat(30) + "x;", 0, "0 0 30 61 1 31");
+        tell("30 lets that use their names", "f a = " + "let a=a+1 in ".repeat(30) + "a; main = 1;", 0, "1 0 31 121 0 32");
+    }
+
+    private static void refusesFunctions() {
+        Forge x = Check.forge("f a b = a; main = f 1 2;");
+        for (int f : new int[] {-1, 2, Integer.MIN_VALUE, Integer.MAX_VALUE}) {
+            Check.refuses("function " + f, IndexOutOfBoundsException.class, () -> x.function(f, 0));
+            Check.refuses("function ahead of what, " + f, IndexOutOfBoundsException.class, () -> x.function(f, 6));
+            Check.refuses("needs of function " + f, IndexOutOfBoundsException.class, () -> x.needs(f, 0) ? 1 : 0);
+            Check.refuses("bits of function " + f, IndexOutOfBoundsException.class, () -> x.bit(f, 0));
+            Check.refuses("function ahead of bits, " + f, IndexOutOfBoundsException.class, () -> x.bit(f, -1));
+            Check.refuses("calls of function " + f, IndexOutOfBoundsException.class, () -> x.called(f));
+        }
+        for (int what : new int[] {-1, 6, Integer.MIN_VALUE, Integer.MAX_VALUE}) {
+            Check.refuses("what " + what, IllegalArgumentException.class, () -> x.function(0, what));
+            Check.refuses("what of the last one " + what, IllegalArgumentException.class, () -> x.function(1, what));
+        }
+        for (int i : new int[] {-1, 2, 31, 32, Integer.MIN_VALUE, Integer.MAX_VALUE}) {
+            Check.refuses("needs " + i, IndexOutOfBoundsException.class, () -> x.needs(0, i) ? 1 : 0);
+        }
+        Check.due("the last parameter", x.needs(0, 1) ? 1 : 0, 0);
+        for (int i = -1; i <= 1; i++) {
+            int none = i;
+            Check.refuses("main has no parameter " + i, IndexOutOfBoundsException.class, () -> x.needs(1, none) ? 1 : 0);
+        }
+    }
+
+    private static void refusesWithoutProgram() {
+        Forge x = new Forge();
+        for (String text : new String[] {"", "main", "main = x;", "f = 1;"}) {
+            for (int f = -1; f <= 1; f++) {
+                int any = f;
+                Check.refuses("function", IllegalStateException.class, () -> x.function(any, any));
+                Check.refuses("needs", IllegalStateException.class, () -> x.needs(any, any) ? 1 : 0);
+                Check.refuses("bit", IllegalStateException.class, () -> x.bit(any, any));
+                Check.refuses("called", IllegalStateException.class, () -> x.called(any));
+            }
+            Check.program(x, "main = 1;");
+            Check.due("with a program", x.function(0, 3), 1);
+            Check.program(x, text);
+        }
+    }
+
+    /** Of functions with none to eight parameters the last bits that there are, and the first that there are not. */
+    private static void bitsThatThereAre() {
+        String[] texts = {
+            "g = 1;", "g a = a;", "g a b = a + b;", "g a b c = a b c + c;", "g a b c d = a + b + c + d;", "g a b c d e = a + b + c + d + e;",
+        };
+        for (int n = 0; n <= 8; n++) {
+            String more = "g a b c d e = \\ " + "p q r".substring(0, Math.max(1, 2 * (n - 5) - 1)) + " . a + b + c + d + e"
+                + " + p + q + r".substring(0, Math.max(0, 4 * (n - 5))) + ";";
+            Forge x = Check.forge("main = 1;" + (n <= 5 ? texts[n] : more));
+            int f = n <= 5 ? 1 : 2;
+            Check.due(n + " parameters", x.function(f, 0), n);
+            Check.due("all bits of " + n, x.bit(f, (1 << n) - 1), 1);
+            Check.due("no bits of " + n, x.bit(f, 0), n == 0 ? 1 : 0);
+            for (int bits : new int[] {-1, 1 << n, (1 << n) + 1, 1 << 30, Integer.MIN_VALUE, Integer.MAX_VALUE}) {
+                Check.refuses("bits " + bits + " of " + n, IllegalArgumentException.class, () -> x.bit(f, bits));
+            }
+            for (int i = 0; i < n; i++) {
+                Check.due("needs " + i + " of " + n, x.needs(f, i) ? 1 : 0, n == 3 && i == 1 ? 0 : 1);
+            }
+            Check.refuses("needs " + n + " of " + n, IndexOutOfBoundsException.class, () -> x.needs(f, x.function(f, 0)) ? 1 : 0);
+        }
     }
 
     /** What F of function 0 gives for all its bits, the lowest first. */
     private static void bits(String text, String want) {
-        LazyForge x = Check.forge(text);
+        Forge x = Check.forge(text);
         StringBuilder got = new StringBuilder();
         int parameters = x.function(0, 0);
         for (int bits = 0; bits < 1 << parameters; bits++) {
@@ -76,6 +153,17 @@ public final class DemandTest {
         bits("f a = g; g = 1; main = 1;", "11");
         bits("f a = g; g = fail; main = 1;", "00");
         bits("f a = g; g = g; main = 1;", "00");
+        bits("f a = case a of {1 -> fail; _ -> fail}; main = 1;", "00");
+        bits("f a = case fail of {1 -> 1; _ -> a}; main = 1;", "00");
+        bits("f a = case 1 of {1 -> fail; 2 -> fail; 3 -> fail; 4 -> fail; 5 -> fail; 6 -> fail; 7 -> fail; 8 -> a}; main = 1;",
+            "01");
+        bits("f a b = a + fail; main = 1;", "0000");
+        bits("f a b = a < b; main = 1;", "0001");
+        bits("f a b = a <= b; main = 1;", "0001");
+        bits("f a b = a - b * a / b % 2; main = 1;", "0001");
+        bits("data T 4; f a = T a a a a; main = 1;", "11");
+        bits("data T 4; f a = case a of {T p q r s -> p + q + r + s}; main = 1;", "01");
+        bits("f a = main; main = 1;", "11");
     }
 
     private static void applications() {
@@ -83,6 +171,12 @@ public final class DemandTest {
         bits("f a b = g b a; g x y = y; main = 1;", "0101");
         bits("f a b = g a; g x y = y; main = 1;", "1111");
         bits("f a b = g a b; g x = x; main = 1;", "0101");
+        bits("f a b = g 1 1 1 1 b; g p q r s t = t; main = 1;", "0011");
+        bits("f a b = g 1 1 1 1; g p q r s t = fail; main = 1;", "1111");
+        bits("f a b = g 1 1 1 1 a; g p q r s t = fail; main = 1;", "0000");
+        bits("f a b = g fail b; g x = 1; main = 1;", "1111");
+        bits("f a b = g a; g = fail; main = 1;", "0000");
+        bits("f a b = g; g x = fail; main = 1;", "1111");
         bits("f a b = a b; main = 1;", "0101");
         bits("f a b = g a b; g = \\ x . x; main = 1;", "1111");
         bits("f a b = g a b; g = fail; main = 1;", "0000");
@@ -126,6 +220,11 @@ public final class DemandTest {
         bits("f a b = let x = let y = a in y + b in x; main = 1;", "0001");
         bits("f a b = let x = case a of {0 -> x; _ -> b} in x; main = 1;", "0001");
         bits("f a b = let g x = a + x in g b; main = 1;", "1111");
+        bits("f a b = let v = a, u = v, z = u, y = z, x = y in x + b; main = 1;", "0001");
+        bits("f a b = let x = y, y = x in b; main = 1;", "0011");
+        bits("f a b = let x = y, y = x in x; main = 1;", "0000");
+        bits("f a b = let x = case y of {0 -> a; _ -> x}, y = case b of {0 -> x; _ -> 1} in x; main = 1;", "0001");
+        bits("f a b = let x = g y, y = g x in x + b; g z = 1; main = 1;", "0011");
     }
 
     private static void need(String what, String text, int want) {
@@ -146,13 +245,26 @@ public final class DemandTest {
         need("through a function", "main = let x = 1 in g x; g y = y + 1;", 1);
         need("a name around counts 1", "f a = let x = fail in let y = 1 in x; main = 1;", 1);
         need("of lets in one another each by itself", "f a = let x = a in (let y = a in x) + (let z = a in 3); main = 1;", 1);
+        need("a function that needs it not", "main = let x = 1 in g x; g y = 1;", 0);
+        need("a part of a call", "main = let x = 1 in g x; g y z = y;", 0);
+        need("a field", "data O 1; main = let x = 1 in O x;", 0);
+        need("applied", "main = let x = 1 in x 2;", 1);
+        need("an argument of it", "main = let x = 1 in 2 x;", 0);
+        need("its E uses it in a lambda", "main = let x = \\ y . x in x 1;", 0);
+        need("its E uses it in a let within", "main = let x = (let y = x in 1) in x;", 0);
+        need("a BINDING with parameters", "main = let g y = y in g 1;", 1);
+        need("a BINDING with parameters that calls itself", "main = let g y = g y in g 1;", 0);
+        need("two BINDINGS, one not used", "main = let x = 1, y = 2 in x;", 0);
+        need("a PATTERN's NAME with its name", "data O 1; f a = let x = a in case a of {O x -> x}; main = 1;", 0);
+        need("a name around that has its name", "f x = let x = 1 in x; main = 1;", 1);
+        need("no E but its own is 0", "f a = let x = a in case a of {_ -> fail; 1 -> x}; main = 1;", 1);
         need("a lambda's are its own", "main = \\ a . let x = a in x;", 0);
         Check.due("they are the lifted function's",
             Check.forge("main = \\ a . let x = a in x;").function(1, 4), 1);
     }
 
     private static void manyParameters() {
-        LazyForge x = Check.forge("f a b c d e = \\ g h i . case a + h of {0 -> b + c + d; _ -> e + g + i}; main = 1;");
+        Forge x = Check.forge("f a b c d e = \\ g h i . case a + h of {0 -> b + c + d; _ -> e + g + i}; main = 1;");
         // Lifted: a is 0, b 1, c 2, d 3, e 4, and g 5, h 6, i 7.
         Check.due("eight parameters", x.function(2, 0), 8);
         Check.due("five free ones", x.function(2, 1), 5);
@@ -173,7 +285,7 @@ public final class DemandTest {
 
     /** Nothing of an earlier program is left. */
     private static void oneBehindAnother() {
-        LazyForge x = Check.forge("main = 1; f a b = 1; g a = let x = a in x;");
+        Forge x = Check.forge("main = 1; f a b = 1; g a = let x = a in x;");
         Check.due("bits", x.bit(1, 0), 1);
         Check.due("lets", x.function(2, 4), 1);
         Check.program(x, "main = 1; f a b = f b a;");

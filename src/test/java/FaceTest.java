@@ -52,9 +52,10 @@ public final class FaceTest {
         int odd = 0;
         for (String first : texts) {
             for (String second : texts) {
-                LazyForge x = new LazyForge();
+                Forge x = new Forge();
                 Check.program(x, first);
-                odd += oddCalls(x, numbers);
+                odd += odd(() -> x.run(true, 100), "ISE");
+                odd += odd(() -> x.write(), "ISE");
                 Check.program(x, second);
                 odd += oddCalls(x, numbers);
             }
@@ -62,7 +63,7 @@ public final class FaceTest {
         Check.due("calls that threw what was not promised", odd, 0);
     }
 
-    private static int oddCalls(LazyForge x, int[] numbers) {
+    private static int oddCalls(Forge x, int[] numbers) {
         int odd = 0;
         for (int n : numbers) {
             odd += odd(() -> x.run(true, n), "ISE", "IAE", "UOE");

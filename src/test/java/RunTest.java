@@ -23,7 +23,7 @@ public final class RunTest {
     }
 
     private static void wrongCalls() {
-        LazyForge x = Check.forge("main = 1;");
+        Forge x = Check.forge("main = 1;");
         Check.refuses("calls -1", IllegalArgumentException.class, () -> x.run(false, -1));
         Check.refuses("calls 801", IllegalArgumentException.class, () -> x.run(true, 801));
         Check.due("nothing was run", x.result(0), 0);
@@ -40,7 +40,7 @@ public final class RunTest {
     }
 
     private static void row(String text, String want) {
-        LazyForge x = Check.forge(text);
+        Forge x = Check.forge(text);
         Check.due("lazy: " + text, x.run(false, 800), 1);
         Check.due("lazy row: " + text, Check.row(x), want);
         Check.due("eager: " + text, x.run(true, 800), 1);
@@ -48,7 +48,7 @@ public final class RunTest {
     }
 
     private static void ends(String text, boolean eager, int how, int why) {
-        LazyForge x = Check.forge(text);
+        Forge x = Check.forge(text);
         Check.due("how: " + text, x.run(eager, 800), how);
         Check.due("result 0: " + text, x.result(0), how);
         Check.due("result 1: " + text, x.result(1), why);
@@ -61,7 +61,7 @@ public final class RunTest {
 
     /** All results of a run with 800 calls. */
     private static void all(String text, boolean eager, String want) {
-        LazyForge x = Check.forge(text);
+        Forge x = Check.forge(text);
         x.run(eager, 800);
         Check.due((eager ? "eager: " : "lazy: ") + text, Check.results(x), want);
     }
@@ -112,7 +112,7 @@ public final class RunTest {
         faultOf("main = True + fail;", 5);
         faultOf("main = fail + 1 / 0;", 5);
         faultOf("main = True / 0;", 4);
-        LazyForge x = Check.forge("data B 2; main = B 1 fail;");
+        Forge x = Check.forge("data B 2; main = B 1 fail;");
         Check.due("a fault behind some numbers", x.run(false, 0), 2);
         Check.due("the row as far as it came", Check.row(x), "2 2 1 1");
     }
@@ -167,7 +167,7 @@ public final class RunTest {
     private static void calls() {
         all("f a b = a; main = f 1 (f 2 3);", false, "1 0 1 2 2 0 0 1 0 2");
         all("f a = a + 1; main = f (f (f 1));", false, "1 0 3 3 3 0 0 3 0 2");
-        LazyForge x = Check.forge("f a = case a of {0 -> g 1; _ -> f (a - 1)}; g a = a; h a = a; main = f 3;");
+        Forge x = Check.forge("f a = case a of {0 -> g 1; _ -> f (a - 1)}; g a = a; h a = a; main = f 3;");
         x.run(false, 800);
         Check.due("f was called", x.called(0), 4);
         Check.due("g was called", x.called(1), 1);
@@ -201,7 +201,7 @@ public final class RunTest {
         all("f a = a + a; main = f (1 + 2);", false, "1 0 1 2 2 0 0 2 0 2");
         all("data P 2; k = 1 + 1; main = P k (k + k);", false, "1 0 0 6 3 0 1 3 0 6");
         row("data C 2; f n = case n of {0 -> 0; _ -> f (n - 1)}; main = let x = f 100 in C x (C x x);", "2 2 1 0 2 2 1 0 1 0");
-        LazyForge x = Check.forge("data C 2; f n = case n of {0 -> 0; _ -> f (n - 1)}; main = let x = f 100 in C x (C x x);");
+        Forge x = Check.forge("data C 2; f n = case n of {0 -> 0; _ -> f (n - 1)}; main = let x = f 100 in C x (C x x);");
         x.run(false, 800);
         Check.due("worked out once", x.result(2), 101);
     }
@@ -229,7 +229,7 @@ public final class RunTest {
     }
 
     private static void cutCalls() {
-        LazyForge x = Check.forge("f n = case n of {0 -> 7; _ -> f (n - 1)}; main = f 5;");
+        Forge x = Check.forge("f n = case n of {0 -> 7; _ -> f (n - 1)}; main = f 5;");
         Check.due("one too few", x.run(false, 5), 3);
         Check.due("CUT 1", x.result(1), 1);
         Check.due("calls", x.result(2), 5);
@@ -245,13 +245,13 @@ public final class RunTest {
     private static void cutCells() {
         // Each call makes a T of five cells and two SUSPENSIONS of two or three.
         String text = "data T 4; k a n = case n of {_ -> k (T a a a a) (n + 1)}; main = k 1 1;";
-        LazyForge x = Check.forge(text);
+        Forge x = Check.forge(text);
         Check.due("a CUT", x.run(false, 800), 3);
         Check.due("CUT 2", x.result(1), 2);
         Check.due("an OBJECT comes whole or not at all", x.result(3), cellsOf(x));
         Check.due("no cell is left for one more", x.result(3) > 4000 - 5 ? 1 : 0, 1);
         Check.due("not too many", x.result(3) <= 4000 ? 1 : 0, 1);
-        LazyForge y = Check.forge("data P 3; f n = case n of {0 -> 0; _ -> case P n n n of {P a b c -> f (a - 1)}}; main = f 799;");
+        Forge y = Check.forge("data P 3; f n = case n of {0 -> 0; _ -> case P n n n of {P a b c -> f (a - 1)}}; main = f 799;");
         Check.due("six cells for each are too many", y.run(false, 800), 3);
         Check.due("they were", y.result(1), 2);
         Check.due("eager there are less", y.run(true, 800), 1);
@@ -259,7 +259,7 @@ public final class RunTest {
         exactlyFull();
     }
 
-    private static int cellsOf(LazyForge x) {
+    private static int cellsOf(Forge x) {
         // main is a SUSPENSION of one cell; those of n + 1 have one variable.
         return 1 + 2 * (x.result(4) - 1) + 5 * x.result(6);
     }
@@ -267,10 +267,10 @@ public final class RunTest {
     /** Five cells for each round, so that 4000 cells are full after main's, some pads' and 799 rounds. */
     private static void exactlyFull() {
         String rounds = "data T 4; k n = case n of {0 -> 7; _ -> case T n n n n of {_ -> k (n - 1)}}; main = k ";
-        LazyForge x = Check.forge(rounds + "799;" + "p1 = 1; p2 = 2; p3 = 3; p4 = 4;");
+        Forge x = Check.forge(rounds + "799;" + "p1 = 1; p2 = 2; p3 = 3; p4 = 4;");
         Check.due("4000 cells fit", x.run(true, 800), 1);
         Check.due("that many", x.result(3), 4000);
-        LazyForge y = Check.forge(rounds + "799;" + "p1 = 1; p2 = 2; p3 = 3; p4 = 4; p5 = 5;");
+        Forge y = Check.forge(rounds + "799;" + "p1 = 1; p2 = 2; p3 = 3; p4 = 4; p5 = 5;");
         Check.due("4001 do not", y.run(true, 800), 3);
         Check.due("for want of a cell", y.result(1), 2);
         Check.due("the last OBJECT is not there", y.result(3), 3996);
@@ -279,16 +279,16 @@ public final class RunTest {
     }
 
     private static void cutRow() {
-        LazyForge x = Check.forge("data C 2; main = let x = C 1 x in x;");
+        Forge x = Check.forge("data C 2; main = let x = C 1 x in x;");
         Check.due("a row without an end", x.run(false, 0), 3);
         Check.due("CUT 3", x.result(1), 3);
         Check.due("1000 numbers", x.result(9), 1000);
         Check.due("the last", x.number(999), 1);
         Check.refuses("no more", IndexOutOfBoundsException.class, () -> x.number(1000));
-        LazyForge y = Check.forge("data C 2; main = let x = C f x in x; f x = x;");
+        Forge y = Check.forge("data C 2; main = let x = C f x in x; f x = x;");
         Check.due("three numbers each", y.run(false, 0), 3);
         Check.due("two that do not fit do not come", y.result(9), 999);
-        LazyForge z = Check.forge("data C 1 | D 2; n = 5; main = let x = D x f in C x; f x = x;");
+        Forge z = Check.forge("data C 1 | D 2; n = 5; main = let x = D x f in C x; f x = x;");
         Check.due("none in a circle comes to its second field", z.run(false, 0), 3);
         Check.due("even", z.result(9), 1000);
         whole();
@@ -297,19 +297,19 @@ public final class RunTest {
     /** Rows of 2 numbers for each C, and one number for the f at the end. */
     private static void whole() {
         String text = "data C 1; f n = case n of {0 -> f; _ -> C (f (n - 1))}; main = f ";
-        LazyForge x = Check.forge(text + "499;");
+        Forge x = Check.forge(text + "499;");
         Check.due("999 numbers", x.run(true, 800), 1);
         Check.due("999", x.result(9), 999);
-        LazyForge y = Check.forge(text + "500;");
+        Forge y = Check.forge(text + "500;");
         Check.due("1001 numbers", y.run(true, 800), 3);
         Check.due("1000 came", y.result(9), 1000);
-        LazyForge z = Check.forge("data C 1; f n = case n of {0 -> 7; _ -> C (f (n - 1))}; main = f 499;");
+        Forge z = Check.forge("data C 1; f n = case n of {0 -> 7; _ -> C (f (n - 1))}; main = f 499;");
         Check.due("1000 numbers", z.run(true, 800), 1);
         Check.due("1000", z.result(9), 1000);
     }
 
     private static void results() {
-        LazyForge x = Check.forge("main = 1 + 2;");
+        Forge x = Check.forge("main = 1 + 2;");
         Check.due("no run yet", Check.results(x), "0 0 0 0 0 0 0 0 0 0");
         x.run(false, 0);
         Check.due("a run", Check.results(x), "1 0 0 1 1 0 0 1 0 2");
@@ -323,7 +323,7 @@ public final class RunTest {
     }
 
     private static void about() {
-        LazyForge x = Check.forge("data A 0; f a = a + 1; main = f (f 1);");
+        Forge x = Check.forge("data A 0; f a = a + 1; main = f (f 1);");
         int[] want = {2, 3, 3 + 5, 0, 0, 0, 0};
         for (int what = 0; what < 7; what++) {
             Check.due("about " + what, x.about(what), want[what]);
@@ -344,7 +344,7 @@ public final class RunTest {
     }
 
     private static void allRunsTogether() {
-        LazyForge x = Check.forge("f x = f x; main = f 1;");
+        Forge x = Check.forge("f x = f x; main = f 1;");
         for (int i = 0; i < 187; i++) {
             x.run(false, 800);
         }
@@ -356,7 +356,7 @@ public final class RunTest {
         Check.refuses("150000 calls", UnsupportedOperationException.class, () -> x.run(false, 0));
         Check.refuses("wrong calls come first", IllegalArgumentException.class, () -> x.run(false, 801));
         Check.due("the latest run stays", x.result(2), 1);
-        LazyForge y = Check.forge("data C 3; f n = case C n n n of {_ -> f (n + 1)}; main = f 1;");
+        Forge y = Check.forge("data C 3; f n = case C n n n of {_ -> f (n + 1)}; main = f 1;");
         int runs = 0;
         while (y.about(6) < 150000 && runs < 100) {
             y.run(false, 800);
@@ -364,7 +364,7 @@ public final class RunTest {
         }
         Check.due("about 4000 cells each", runs, 38);
         Check.refuses("150000 cells", UnsupportedOperationException.class, () -> y.run(false, 0));
-        LazyForge z = Check.forge("data T 4; k n = case n of {0 -> 7; _ -> case T n n n n of {_ -> k (n - 1)}}; main = k 799;"
+        Forge z = Check.forge("data T 4; k n = case n of {0 -> 7; _ -> case T n n n n of {_ -> k (n - 1)}}; main = k 799;"
             + "p1 = 1; p2 = 2; p3 = 3; p4 = 4;");
         for (int i = 0; i < 37; i++) {
             z.run(true, 800);

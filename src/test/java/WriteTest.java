@@ -4,8 +4,13 @@ public final class WriteTest {
         eachKind();
         lifting();
         variablesInOrder();
+        edges();
         rereading();
-        tooMuch();
+        theMost();
+        oneTooMany();
+        farTooMany();
+        whole();
+        noProgram();
         letters();
         Check.close("WriteTest");
     }
@@ -51,7 +56,7 @@ public final class WriteTest {
         written("an applied lambda", "f a=(\\x.x) 1 + (\\x.x+a) 2;main=1;",
             "f0 v0 = ((f2 1) + ((f3 v0) 2));\nmain = 1;\nf2 v0 = v0;\nf3 v0 v1 = (v1 + v0);\n");
         written("functions are never free", "k=1;main=\\x.k+x;", "f0 = 1;\nmain = f2;\nf2 v0 = (f0 + v0);\n");
-        LazyForge x = Check.forge("g a b c=\\x y.c+x+a+c;main=1;");
+        Forge x = Check.forge("g a b c=\\x y.c+x+a+c;main=1;");
         Check.due("parameters", x.function(2, 0), 4);
         Check.due("free ones of these", x.function(2, 1), 2);
         Check.due("parts in its place", x.function(0, 3), 4);
@@ -66,8 +71,55 @@ public final class WriteTest {
             "f0 v0 = (let v1 = f2 in (case v1 of {_ -> ((f3 v1) v1)}));\nmain = 1;\nf2 v0 = v0;\nf3 v0 v1 = v0;\n");
     }
 
+    private static void edges() {
+        written("fields 0 to 4", "data A 0|B 1|C 2|D 3|E 4;main=A;",
+            "data A 0 | B 1 | C 2 | D 3 | E 4;\nmain = A;\n");
+        written("a CONSTRUCTOR of one sign and one of eight", "data A 0;data Abcdefg8 1;main=Abcdefg8 A;",
+            "data A 0 | Abcdefg8 1;\nmain = (Abcdefg8 A);\n");
+        written("False and True are not told", "main=case True of{False->True;True->False};",
+            "main = (case True of {False -> True; True -> False});\n");
+        written("five arguments", "main=0 1 2 3 4 5;", "main = (0 1 2 3 4 5);\n");
+        written("four fields", "data E 4;main=E 1 2 3 4;", "data E 4;\nmain = (E 1 2 3 4);\n");
+        written("five parameters", "g a b c d e=e;main=1;", "f0 v0 v1 v2 v3 v4 = v4;\nmain = 1;\n");
+        written("eight parameters", "g a b c d=\\p q r s.a b c d;main=1;",
+            "f0 v0 v1 v2 v3 = (f2 v0 v1 v2 v3);\nmain = 1;\nf2 v0 v1 v2 v3 v4 v5 v6 v7 = (v0 v1 v2 v3);\n");
+        written("eight free variables and parameters in another order", "g a b c d e=\\p q.\\r.q p e d c b;main=1;",
+            "f0 v0 v1 v2 v3 v4 = (f2 v4 v3 v2 v1);\nmain = 1;\n"
+                + "f2 v0 v1 v2 v3 v4 v5 = (f3 v5 v4 v0 v1 v2 v3);\nf3 v0 v1 v2 v3 v4 v5 v6 = (v0 v1 v2 v3 v4 v5);\n");
+        written("five BINDINGS", "main=let a=1,b=2,c=3,d=4,e=5 in e;",
+            "main = (let v0 = 1, v1 = 2, v2 = 3, v3 = 4, v4 = 5 in v4);\n");
+        written("eight alternatives", "main=case 7 of{0->0;1->1;2->2;3->3;4->4;5->5;6->6;2147483647->7};",
+            "main = (case 7 of {0 -> 0; 1 -> 1; 2 -> 2; 3 -> 3; 4 -> 4; 5 -> 5; 6 -> 6; 2147483647 -> 7});\n");
+        written("one alternative", "main=case 7 of{_->0};", "main = (case 7 of {_ -> 0});\n");
+        manyVariables();
+        allConstructors();
+    }
+
+    /** Numbers of variables up to 39: four parameters, and nine PATTERNS of four. */
+    private static void manyVariables() {
+        String one = "(case a of{C p q r s->s})";
+        StringBuilder want = new StringBuilder("(".repeat(8));
+        for (int i = 0; i < 9; i++) {
+            int v = 4 + 4 * i;
+            want.append(i == 0 ? "" : " + ");
+            want.append(String.format("(case v0 of {C v%d v%d v%d v%d -> v%d})", v, v + 1, v + 2, v + 3, v + 3));
+            want.append(i == 0 ? "" : ")");
+        }
+        written("40 variables", "data C 4;main=1;g a b c d=" + one + ("+" + one).repeat(8) + ";",
+            "data C 4;\nmain = 1;\nf1 v0 v1 v2 v3 = " + want + ";\n");
+    }
+
+    private static void allConstructors() {
+        StringBuilder text = new StringBuilder("data ");
+        for (int i = 0; i < 28; i++) {
+            text.append(i == 0 ? "" : " | ").append("C").append(i).append(" ").append(i % 5);
+        }
+        text.append(";\n");
+        written("30 CONSTRUCTORS", text + "main=C0;", text + "main = C0;\n");
+    }
+
     private static void rereading() {
-        LazyForge x = Check.forge("data N 0|C 2;m f l=case l of{N->N;C a b->C (f a) (m f b)};main=let k=3 in m (\\x.x*k) (C 1 N);");
+        Forge x = Check.forge("data N 0|C 2;m f l=case l of{N->N;C a b->C (f a) (m f b)};main=let k=3 in m (\\x.x*k) (C 1 N);");
         String once = Check.written(x);
         int functions = x.about(0);
         x.take();
@@ -75,89 +127,93 @@ public final class WriteTest {
         Check.due("nothing is left to lift", Check.written(x), once);
     }
 
-    /** Thirty lambdas in one another in each function, each with five free variables in its place. */
-    private static String deep(int functions) {
-        StringBuilder text = new StringBuilder("main=1;");
-        for (int f = 0; f < functions; f++) {
-            text.append("g").append(f).append(" a b c d e=").append(Check.repeat("\\x.", 29)).append("a b c d e;");
-        }
-        return text.toString();
-    }
-
-    private static void tooMuch() {
-        LazyForge x = Check.forge("main = 1;");
-        x.write();
-        int small = 0;
-        int great = 0;
-        for (int functions = 1; functions <= 16; functions++) {
-            Check.program(x, deep(functions));
-            int before = x.about(4);
-            int signs = x.write();
-            if (signs == LazyForge.NONE) {
-                great++;
-                Check.due("OUT stays", x.about(4), before);
-                Check.due("with its signs", x.letter(0), 'm');
-            } else {
-                small++;
-                Check.due("none is written behind a greater one that was refused", great, 0);
-                Check.due("OUT", x.about(4), signs);
-            }
-        }
-        Check.due("some are small", small > 0 ? 1 : 0, 1);
-        Check.due("some are great", great > 0 ? 1 : 0, 1);
-        justEnough(x);
-        Check.program(x, "main = 2;");
-        Check.due("the next one is whole", Check.written(x), "main = 2;\n");
-    }
-
-    /** Functions of ten numbers each are put behind, and their numbers get digits until 12000 signs are reached. */
-    private static void justEnough(LazyForge x) {
-        String most = deep(8);
-        String ten = Check.repeat("7+", 9) + "7;";
-        StringBuilder text = new StringBuilder(most);
-        int missing = 12000;
-        for (int pads = 1; pads <= 15 && missing > 81 * (pads - 1); pads++) {
-            text.append("p").append(pads).append("=").append(ten);
-            Check.program(x, text.toString());
-            missing = 12000 - x.write();
-        }
-        Check.due("a digit for each sign", missing > 0 && missing < 12000 ? 1 : 0, 1);
-        Check.program(x, withDigits(text, most.length(), missing));
+    private static void theMost() {
+        Wide wide = Wide.of(12000);
+        Forge x = Check.forge(wide.source());
         Check.due("12000 signs", x.write(), 12000);
         Check.due("OUT has them", x.about(4), 12000);
-        Check.program(x, withDigits(text, most.length(), missing + 1));
-        Check.due("12001 signs", x.write(), LazyForge.NONE);
-        Check.due("OUT stays", x.about(4), 12000);
+        String due = wide.due();
+        for (int k = 0; k < 12000; k += 97) {
+            Check.due("sign " + k + " of 12000", x.letter(k), due.charAt(k));
+        }
+        Check.due("the last", x.letter(11999), 10);
+        Check.due("behind", x.letter(12000), LazyForge.NONE);
+        Check.due("they are too many to take", x.take(), LazyForge.NONE);
+        Forge y = Check.forge(Wide.of(11999).source());
+        Check.due("11999 signs", y.write(), 11999);
+        Check.due("the last one", y.letter(11998), 10);
     }
 
-    /** So many numbers 7 behind that place are 77, and when all are, 777, and so on. */
-    private static String withDigits(StringBuilder text, int from, int digits) {
-        StringBuilder longer = new StringBuilder(text);
-        String number = "7";
-        int at = from;
-        for (int i = 0; i < digits; i++) {
-            int plus = longer.indexOf(number + "+", at);
-            if (plus < 0) {
-                number += "7";
-                plus = longer.indexOf(number + "+", from);
+    private static void oneTooMany() {
+        Forge x = Check.forge("main = 42;");
+        Check.due("a short one", x.write(), 11);
+        Check.program(x, Wide.of(12001).source());
+        Check.text(x, "main=6;");
+        Check.due("12001 signs", x.write(), LazyForge.NONE);
+        Check.due("OUT stays", Check.out(x), "main = 42;\n");
+        Check.due("and how many it has", x.about(4), 11);
+        Check.due("the text stays", x.about(3), 7);
+        Check.due("the program stays", x.about(0) > 1 ? 1 : 0, 1);
+        Check.due("once more", x.write(), LazyForge.NONE);
+        Check.due("that program", x.program(), 1);
+        Check.due("is written", Check.written(x), "main = 6;\n");
+    }
+
+    private static void farTooMany() {
+        Forge x = Check.forge(Wide.of(13500).source());
+        Check.due("13500 signs", x.write(), LazyForge.NONE);
+        Check.due("OUT stays empty", x.about(4), 0);
+        Check.due("without a sign", x.letter(0), LazyForge.NONE);
+        Check.due("taken it is nothing", x.take(), 0);
+    }
+
+    private static void whole() {
+        for (int signs : new int[] {300, 1000, 1001}) {
+            Wide wide = Wide.of(signs);
+            Forge x = Check.forge(wide.source());
+            Check.due("signs of " + signs, x.write(), signs);
+            String due = wide.due();
+            for (int k = 0; k <= signs; k += signs > 300 ? 7 : 1) {
+                Check.due("sign " + k + " of " + signs, x.letter(k), k < signs ? due.charAt(k) : LazyForge.NONE);
             }
-            longer.insert(plus, "7");
-            at = longer.indexOf("+", plus);
         }
-        return longer.toString();
+    }
+
+    private static void noProgram() {
+        Forge x = new Forge();
+        Check.refuses("a new object", IllegalStateException.class, () -> x.write());
+        Check.program(x, "main = 1;");
+        Check.due("a program", x.write(), 10);
+        Check.due("again", x.write(), 10);
+        for (String text : new String[] {"", "main = ", "main = x;", "f = 1;"}) {
+            Check.program(x, text);
+            Check.refuses("a fault in " + text, IllegalStateException.class, () -> x.write());
+            Check.due("OUT stays", Check.out(x), "main = 1;\n");
+        }
+        Check.text(x, "main = 2;");
+        Check.refuses("a text that is no program yet", IllegalStateException.class, () -> x.write());
+        Check.due("that stays", x.program(), 1);
+        Check.due("OUT is still the old one", Check.out(x), "main = 1;\n");
+        Check.due("until it is written", Check.written(x), "main = 2;\n");
     }
 
     private static void letters() {
-        LazyForge x = Check.forge("main = 1;");
+        Forge x = Check.forge("main = 1;");
         Check.due("nothing is written yet", x.letter(0), LazyForge.NONE);
+        Check.refuses("below, with nothing there", IndexOutOfBoundsException.class, () -> x.letter(-1));
         Check.due("write", x.write(), 10);
         Check.due("the first", x.letter(0), 'm');
         Check.due("the last", x.letter(9), 10);
         Check.due("behind", x.letter(10), LazyForge.NONE);
         Check.due("far behind", x.letter(Integer.MAX_VALUE), LazyForge.NONE);
         Check.refuses("below", IndexOutOfBoundsException.class, () -> x.letter(-1));
-        Check.program(x, "main = ");
-        Check.refuses("without a program", IllegalStateException.class, () -> x.write());
-        Check.due("OUT stays", x.letter(0), 'm');
+        Check.refuses("far below", IndexOutOfBoundsException.class, () -> x.letter(Integer.MIN_VALUE));
+        Check.due("OUT stays", Check.out(x), "main = 1;\n");
+        Check.program(x, "main = 12 + 34;");
+        Check.due("a longer one", x.write(), 18);
+        Check.due("its last", x.letter(17), 10);
+        Check.program(x, "main = 5;");
+        Check.due("a shorter one", x.write(), 10);
+        Check.due("nothing of the longer one is behind it", x.letter(10), LazyForge.NONE);
     }
 }
