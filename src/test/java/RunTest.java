@@ -15,28 +15,30 @@ public final class RunTest {
         eager();
         cutCalls();
         cutCells();
-        cutRow();
         results();
+        oneBehindAnother();
         about();
-        allRunsTogether();
         Check.close("RunTest");
     }
 
     private static void wrongCalls() {
         Forge x = Check.forge("main = 1;");
-        Check.refuses("calls -1", IllegalArgumentException.class, () -> x.run(false, -1));
-        Check.refuses("calls 801", IllegalArgumentException.class, () -> x.run(true, 801));
-        Check.due("nothing was run", x.result(0), 0);
-        Check.due("calls 0", x.run(false, 0), 1);
-        Check.due("calls 800", x.run(true, 800), 1);
-        Check.refuses("result -1", IllegalArgumentException.class, () -> x.result(-1));
-        Check.refuses("result 10", IllegalArgumentException.class, () -> x.result(10));
-        Check.refuses("number -1", IndexOutOfBoundsException.class, () -> x.number(-1));
-        Check.refuses("number 2", IndexOutOfBoundsException.class, () -> x.number(2));
-        Check.refuses("called -1", IndexOutOfBoundsException.class, () -> x.called(-1));
-        Check.refuses("called 1", IndexOutOfBoundsException.class, () -> x.called(1));
-        Check.refuses("about -1", IllegalArgumentException.class, () -> x.about(-1));
-        Check.refuses("about 7", IllegalArgumentException.class, () -> x.about(7));
+        for (int round = 0; round < 3; round++) {
+            int numbers = x.result(9);
+            for (int n : new int[] {-1, Integer.MIN_VALUE, Integer.MAX_VALUE}) {
+                Check.refuses("result " + n, IllegalArgumentException.class, () -> x.result(n));
+                Check.refuses("number " + n, IndexOutOfBoundsException.class, () -> x.number(n));
+                Check.refuses("called " + n, IndexOutOfBoundsException.class, () -> x.called(n));
+                Check.refuses("about " + n, IllegalArgumentException.class, () -> x.about(n));
+            }
+            Check.refuses("result 10", IllegalArgumentException.class, () -> x.result(10));
+            Check.refuses("the first number that is not there", IndexOutOfBoundsException.class, () -> x.number(numbers));
+            Check.refuses("called 1", IndexOutOfBoundsException.class, () -> x.called(1));
+            Check.refuses("about 7", IllegalArgumentException.class, () -> x.about(7));
+            Check.due("the last result", x.result(9), round == 0 ? 0 : 2);
+            Check.due("called 0", x.called(0), 0);
+            Check.due("a run", x.run(round == 0, 0), 1);
+        }
     }
 
     private static void row(String text, String want) {
@@ -93,6 +95,32 @@ public final class RunTest {
         row("main = 100 - 10 - 1;", "1 89");
         row("main = 100 / 10 * 2 % 7;", "1 6");
         row("main = (0 - 1) < 0;", "2 1");
+        String least = "(0 - 2147483647 - 1)";
+        row("main = " + least + " - 1;", "1 2147483647");
+        row("main = 2147483647 * 2;", "1 -2");
+        row("main = 46341 * 46341;", "1 -2147479015");
+        row("main = " + least + " * (0 - 1);", "1 -2147483648");
+        row("main = " + least + " + " + least + ";", "1 0");
+        row("main = " + least + " / 1;", "1 -2147483648");
+        row("main = " + least + " / 2147483647;", "1 -1");
+        row("main = " + least + " % 2147483647;", "1 -1");
+        row("main = 2147483647 / " + least + ";", "1 0");
+        row("main = 2147483647 % " + least + ";", "1 2147483647");
+        row("main = 2147483647 / (0 - 1);", "1 -2147483647");
+        row("main = 0 / 5;", "1 0");
+        row("main = 0 % (0 - 5);", "1 0");
+        row("main = (0 - 5) % 5;", "1 0");
+        row("main = 1 / 2;", "1 0");
+        row("main = (0 - 1) / 2;", "1 0");
+        row("main = (0 - 1) % 2;", "1 -1");
+        row("main = " + least + " < 2147483647;", "2 1");
+        row("main = 2147483647 < " + least + ";", "2 0");
+        row("main = 2147483647 <= " + least + ";", "2 0");
+        row("main = " + least + " <= " + least + ";", "2 1");
+        row("main = " + least + " == " + least + ";", "2 1");
+        row("main = " + least + " == 2147483647;", "2 0");
+        row("main = 2 < 3;", "2 1");
+        row("main = 4 <= 3;", "2 0");
     }
 
     private static void faults() {
@@ -112,6 +140,30 @@ public final class RunTest {
         faultOf("main = True + fail;", 5);
         faultOf("main = fail + 1 / 0;", 5);
         faultOf("main = True / 0;", 4);
+        faultOf("main = True + 1 / 0;", 2);
+        faultOf("main = 1 / 0 + fail;", 2);
+        faultOf("main = fail + True;", 5);
+        faultOf("main = 1 + fail;", 5);
+        faultOf("main = 0 / 0;", 2);
+        faultOf("main = (0 - 2147483647 - 1) / 0;", 2);
+        faultOf("main = (0 - 2147483647 - 1) % 0;", 2);
+        faultOf("main = 1 / (3 - 3);", 2);
+        faultOf("main = 1 % True;", 4);
+        faultOf("main = 1 < True;", 4);
+        faultOf("main = False <= 1;", 4);
+        faultOf("data C 1; main = C 1 == C 1;", 4);
+        faultOf("f a b = a; main = f 1 + 1;", 4);
+        faultOf("main = 1 + main;", 3);
+        faultOf("main = k; k = l; l = k;", 3);
+        faultOf("main = main 1;", 3);
+        faultOf("main = case main of {_ -> 1};", 3);
+        faultOf("data C 1; main = let x = C y, y = y + 1 in x;", 3);
+        faultOf("main = fail 1;", 5);
+        faultOf("main = fail (1 / 0);", 5);
+        faultOf("main = (1 / 0) fail;", 2);
+        faultOf("main = True True;", 4);
+        faultOf("main = k 1; k = 5;", 4);
+        faultOf("f a = \\ b . a; main = f 1 2 3;", 4);
         Forge x = Check.forge("data B 2; main = B 1 fail;");
         Check.due("a fault behind some numbers", x.run(false, 0), 2);
         Check.due("the row as far as it came", Check.row(x), "2 2 1 1");
@@ -130,6 +182,18 @@ public final class RunTest {
         faultOf("data P 1; main = case P 1 of {True -> 1; 1 -> 2};", 1);
         faultOf("main = case (\\ x . x) of {True -> 1};", 1);
         faultOf("main = case fail of {_ -> 1};", 5);
+        faultOf("main = case 1 of {True -> 1};", 1);
+        faultOf("main = case True of {1 -> 1; False -> 2};", 1);
+        faultOf("data P 1 | Q 1; main = case P 1 of {Q a -> a};", 1);
+        faultOf("f a b = a; main = case f 1 of {0 -> 1; False -> 2};", 1);
+        row("f a b = a; main = case f 1 of {0 -> 1; _ -> 2};", "1 2");
+        row("main = case 2147483647 of {2147483646 -> 1; 2147483647 -> 2};", "1 2");
+        row("main = case 0 - 2147483647 - 1 of {2147483647 -> 1; 0 -> 2; _ -> 3};", "1 3");
+        row("main = case 8 of {1 -> 1; 2 -> 2; 3 -> 3; 4 -> 4; 5 -> 5; 6 -> 6; 7 -> 7; 8 -> 80};", "1 80");
+        row("main = case 5 of {_ -> 1; _ -> 2};", "1 1");
+        row("data T 4; main = case T 1 2 3 4 of {T a b c d -> d * 1000 + c * 100 + b * 10 + a};", "1 4321");
+        row("data P 2; f p = case p of {P p q -> p * 10 + q}; main = f (P 1 2);", "1 12");
+        row("data P 2; f p = case p of {P q p -> case p of {P r s -> q + r + s}}; main = f (P 1 (P 2 3));", "1 6");
     }
 
     private static void keeping() {
@@ -278,36 +342,6 @@ public final class RunTest {
         Check.due("the call that wanted it is", y.result(2), 799);
     }
 
-    private static void cutRow() {
-        Forge x = Check.forge("data C 2; main = let x = C 1 x in x;");
-        Check.due("a row without an end", x.run(false, 0), 3);
-        Check.due("CUT 3", x.result(1), 3);
-        Check.due("1000 numbers", x.result(9), 1000);
-        Check.due("the last", x.number(999), 1);
-        Check.refuses("no more", IndexOutOfBoundsException.class, () -> x.number(1000));
-        Forge y = Check.forge("data C 2; main = let x = C f x in x; f x = x;");
-        Check.due("three numbers each", y.run(false, 0), 3);
-        Check.due("two that do not fit do not come", y.result(9), 999);
-        Forge z = Check.forge("data C 1 | D 2; n = 5; main = let x = D x f in C x; f x = x;");
-        Check.due("none in a circle comes to its second field", z.run(false, 0), 3);
-        Check.due("even", z.result(9), 1000);
-        whole();
-    }
-
-    /** Rows of 2 numbers for each C, and one number for the f at the end. */
-    private static void whole() {
-        String text = "data C 1; f n = case n of {0 -> f; _ -> C (f (n - 1))}; main = f ";
-        Forge x = Check.forge(text + "499;");
-        Check.due("999 numbers", x.run(true, 800), 1);
-        Check.due("999", x.result(9), 999);
-        Forge y = Check.forge(text + "500;");
-        Check.due("1001 numbers", y.run(true, 800), 3);
-        Check.due("1000 came", y.result(9), 1000);
-        Forge z = Check.forge("data C 1; f n = case n of {0 -> 7; _ -> C (f (n - 1))}; main = f 499;");
-        Check.due("1000 numbers", z.run(true, 800), 1);
-        Check.due("1000", z.result(9), 1000);
-    }
-
     private static void results() {
         Forge x = Check.forge("main = 1 + 2;");
         Check.due("no run yet", Check.results(x), "0 0 0 0 0 0 0 0 0 0");
@@ -320,6 +354,32 @@ public final class RunTest {
         Check.program(x, "main = 1 + 2;");
         Check.due("no run since", Check.results(x), "0 0 0 0 0 0 0 0 0 0");
         Check.refuses("no row since", IndexOutOfBoundsException.class, () -> x.number(0));
+        x.run(true, 0);
+        Check.due("a run again", Check.results(x), "1 0 0 1 1 0 0 1 0 2");
+        Check.program(x, "main = 1 + 2");
+        Check.due("no run since a fault", Check.results(x), "0 0 0 0 0 0 0 0 0 0");
+        Check.refuses("no row since a fault", IndexOutOfBoundsException.class, () -> x.number(0));
+        x.take();
+        x.end(0);
+        Check.due("without a program the results are there", Check.results(x), "0 0 0 0 0 0 0 0 0 0");
+    }
+
+    /** A run has nothing of an earlier one. */
+    private static void oneBehindAnother() {
+        String text = "data P 2; f n = case n of {0 -> True; _ -> P n (f (n - 1))}; g = f 3; main = g;";
+        Forge x = Check.forge(text);
+        x.run(false, 800);
+        String first = Check.results(x) + " " + Check.row(x) + " " + x.called(0);
+        Check.due("a run", first, "1 0 4 23 8 0 3 8 0 14 2 2 1 3 2 2 1 2 2 2 1 1 2 1 4");
+        x.run(true, 1);
+        Check.due("another", Check.results(x) + " " + x.called(0), "3 1 1 7 3 0 1 2 2 4 1");
+        Check.refuses("a shorter row", IndexOutOfBoundsException.class, () -> x.number(4));
+        x.run(false, 800);
+        Check.due("the first again", Check.results(x) + " " + Check.row(x) + " " + x.called(0), first);
+        Check.program(x, "main = 1; f a = a;");
+        Check.due("not called since", x.called(1), 0);
+        x.run(false, 0);
+        Check.due("nothing of another program's", Check.results(x), "1 0 0 1 1 0 0 1 0 2");
     }
 
     private static void about() {
@@ -341,41 +401,5 @@ public final class RunTest {
         for (int what = 0; what < 7; what++) {
             Check.due("last about " + what, x.about(what), last[what]);
         }
-    }
-
-    private static void allRunsTogether() {
-        Forge x = Check.forge("f x = f x; main = f 1;");
-        for (int i = 0; i < 187; i++) {
-            x.run(false, 800);
-        }
-        Check.due("calls so far", x.about(5), 149600);
-        x.run(false, 399);
-        Check.due("one call is left", x.about(5), 149999);
-        x.run(false, 1);
-        Check.due("none is left", x.about(5), 150000);
-        Check.refuses("150000 calls", UnsupportedOperationException.class, () -> x.run(false, 0));
-        Check.refuses("wrong calls come first", IllegalArgumentException.class, () -> x.run(false, 801));
-        Check.due("the latest run stays", x.result(2), 1);
-        Forge y = Check.forge("data C 3; f n = case C n n n of {_ -> f (n + 1)}; main = f 1;");
-        int runs = 0;
-        while (y.about(6) < 150000 && runs < 100) {
-            y.run(false, 800);
-            runs++;
-        }
-        Check.due("about 4000 cells each", runs, 38);
-        Check.refuses("150000 cells", UnsupportedOperationException.class, () -> y.run(false, 0));
-        Forge z = Check.forge("data T 4; k n = case n of {0 -> 7; _ -> case T n n n n of {_ -> k (n - 1)}}; main = k 799;"
-            + "p1 = 1; p2 = 2; p3 = 3; p4 = 4;");
-        for (int i = 0; i < 37; i++) {
-            z.run(true, 800);
-        }
-        Check.due("cells so far", z.about(6), 148000);
-        z.run(true, 398);
-        Check.due("five cells are left", z.about(6), 149995);
-        Check.due("a run is left", z.run(true, 0), 3);
-        Check.due("no cell is left", z.about(6), 150000);
-        Check.refuses("exactly 150000 cells", UnsupportedOperationException.class, () -> z.run(false, 0));
-        Check.program(y, "");
-        Check.refuses("no program comes first", IllegalStateException.class, () -> y.run(false, 0));
     }
 }
