@@ -12,6 +12,7 @@ public final class CutTest {
         cellsOfSuspensions();
         cellsOfFieldsBehindTheirObject();
         cellsOfBindings();
+        cutsEndRuns();
         cellsOfFunctionsWithout();
         rowOfInts();
         rowOfConstructors();
@@ -203,6 +204,36 @@ public final class CutTest {
         needsCells("let x = g (n + 1), y = 1 + 1 in 7", 6, "4 1 1 0");
         needsCells("let x = n, y = n in 7", 4, "2 1 0 0");
         needsCells("let x = 1, y = True, z = c, u = O n in 7", 2, "0 0 0 0");
+    }
+
+    /** With so few cells the first does not fit; the second would, but nothing comes any more. */
+    private static void nothingBehindTheCut(String e, int free, String came) {
+        for (boolean eager : new boolean[] {false, true}) {
+            int rounds = rounds(eager, free);
+            Forge x = filled(eager, free, e);
+            Check.due("too few cells for " + e, x.run(eager, 800), 3);
+            Check.due("so it is cut", x.result(1), 2);
+            String got = (x.result(3) - (4000 - free)) + " " + (x.result(4) - 1 - pads(eager, free) - (eager ? 0 : rounds)) + " "
+                + x.result(5) + " " + (x.result(6) - rounds);
+            Check.due("nothing behind it comes for " + e, got, came);
+            Check.due("nor is anything called", x.result(2), rounds + 1);
+            Check.due("nor updated", x.result(7), eager ? 0 : rounds);
+        }
+    }
+
+    private static void cutsEndRuns() {
+        nothingBehindTheCut("g (n + n) (1 + 1) 1 1 1", 1, "0 0 0 0");
+        nothingBehindTheCut("g (O n) (1 + 1) 1 1 1", 1, "0 0 0 0");
+        nothingBehindTheCut("g 1 2 (g n) (1 + 1) 1", 2, "0 0 0 0");
+        nothingBehindTheCut("(case n of {_ -> g}) (n + n) (1 + 1)", 1, "0 0 0 0");
+        nothingBehindTheCut("3 (n + n) (1 + 1)", 1, "0 0 0 0");
+        nothingBehindTheCut("P (n + n) (1 + 1)", 4, "3 0 0 1");
+        nothingBehindTheCut("P (O n) (1 + 1)", 4, "3 0 0 1");
+        nothingBehindTheCut("g (n + n) (1 + 1)", 5, "4 0 1 0");
+        nothingBehindTheCut("let x = O n, y = 1 + 1 in 7", 1, "0 0 0 0");
+        nothingBehindTheCut("let x = P (n + n) (1 + 1), y = P (1 + 1) 1 in 7", 7, "6 0 0 2");
+        nothingBehindTheCut("(g n) (1 + 1) (n + n) (1 + 1)", 2, "1 1 0 0");
+        nothingBehindTheCut("O n + (case c 1 of {_ -> 1})", 1, "0 0 0 0");
     }
 
     private static void cellsOfFunctionsWithout() {

@@ -12,6 +12,7 @@ public final class DemandTest {
         lets();
         letsThatNeed();
         manyParameters();
+        manyWithManyParameters();
         oneBehindAnother();
         Check.close("DemandTest");
     }
@@ -221,6 +222,8 @@ public final class DemandTest {
         bits("f a b = let x = case a of {0 -> x; _ -> b} in x; main = 1;", "0001");
         bits("f a b = let g x = a + x in g b; main = 1;", "1111");
         bits("f a b = let v = a, u = v, z = u, y = z, x = y in x + b; main = 1;", "0001");
+        bits("f a b = let x = case 1 of {0 -> a; _ -> y}, y = b in x; main = 1;", "0111");
+        bits("f a b = let x = case 1 of {0 -> 1; _ -> y}, y = x + b, z = y + a in z; main = 1;", "0001");
         bits("f a b = let x = y, y = x in b; main = 1;", "0011");
         bits("f a b = let x = y, y = x in x; main = 1;", "0000");
         bits("f a b = let x = case y of {0 -> a; _ -> x}, y = case b of {0 -> x; _ -> 1} in x; main = 1;", "0001");
@@ -283,6 +286,52 @@ public final class DemandTest {
         }
     }
 
+    /** Functions of eight parameters one behind another, each with bits of its own, and one that applies another. */
+    private static void manyWithManyParameters() {
+        Forge x = Check.forge("h a b c d e = (\\ f g i . f) + (\\ f g i . a b + c + d + e + i) + (\\ f g i . g + k a b c d e)"
+            + " + (\\ f g i . case f of {0 -> i; _ -> a + b c d e}); k a b c d e = c + d; main = 1;");
+        int[] parameters = {3, 8, 8, 8};
+        int[][] always = {{0}, {0, 2, 3, 4, 7}, {2, 3, 6}, {5}};
+        for (int f = 0; f < 4; f++) {
+            Check.due("parameters of " + f, x.function(3 + f, 0), parameters[f]);
+        }
+        int wrong = 0;
+        for (int bits = 0; bits < 128; bits++) {
+            int both = 255 - bits;
+            wrong += x.bit(4, both) == (has(both, always[1]) ? 1 : 0) ? 0 : 1;
+            wrong += x.bit(5, both) == (has(both, always[2]) ? 1 : 0) ? 0 : 1;
+        }
+        Check.due("wrong bits", wrong, 0);
+        Check.due("the one behind", x.bit(6, 255), 1);
+        Check.due("without what is asked", x.bit(6, 255 - 32), 0);
+        Check.due("without one side", x.bit(6, 255 - 128), 1);
+        Check.due("without the other side", x.bit(6, 255 - 1), 1);
+        Check.due("without both sides", x.bit(6, 255 - 128 - 1), 0);
+        Check.due("all bits of 64 alone", x.bit(5, 63), 0);
+        for (int i = 0; i < 8; i++) {
+            Check.due("needs " + i + " of the second", x.needs(4, i) ? 1 : 0, has(1 << i, always[1], 1));
+            Check.due("needs " + i + " of the third", x.needs(5, i) ? 1 : 0, has(1 << i, always[2], 1));
+        }
+    }
+
+    private static boolean has(int bits, int[] places) {
+        for (int place : places) {
+            if ((bits >> place & 1) == 0) {
+                return false;
+            }
+        }
+        return true;
+    }
+
+    /** Whether so many of the places, at least, are among the bits: 1 or 0. */
+    private static int has(int bits, int[] places, int many) {
+        int found = 0;
+        for (int place : places) {
+            found += bits >> place & 1;
+        }
+        return found >= many ? 1 : 0;
+    }
+
     /** Nothing of an earlier program is left. */
     private static void oneBehindAnother() {
         Forge x = Check.forge("main = 1; f a b = 1; g a = let x = a in x;");
@@ -294,6 +343,10 @@ public final class DemandTest {
         Check.refuses("no function 2 any more", IndexOutOfBoundsException.class, () -> x.needs(2, 0) ? 1 : 0);
         Check.refuses("nor its bits", IndexOutOfBoundsException.class, () -> x.bit(2, 0));
         Check.refuses("nor its lets", IndexOutOfBoundsException.class, () -> x.function(2, 4));
+        Check.program(x, "f a b = 1; main = 1;");
+        Check.due("bits of the first", x.bit(0, 0), 1);
+        Check.program(x, "f a b = f b a; main = 1;");
+        Check.due("its least bits", x.bit(0, 3), 0);
         Check.program(x, "main = 1; f a b = 1; g a = let x = a in 1;");
         Check.due("no lets", x.function(2, 4), 0);
         Check.due("bits again", x.bit(1, 0), 1);
