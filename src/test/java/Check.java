@@ -138,10 +138,6 @@ final class Check {
         return numbers.toString();
     }
 
-    static String repeat(String part, int times) {
-        return part.repeat(Math.max(0, times));
-    }
-
     /** Functions with so many parts, 41 in one at most; main is still to come. */
     static String parts(int many) {
         StringBuilder text = new StringBuilder();
